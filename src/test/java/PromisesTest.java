@@ -430,6 +430,8 @@ public final class PromisesTest {
         dueCommon("12", 0, 2, 2, 2, 0, 0, MISSING, 0);
         dueCommon("12", 0, 0, 2, 2, 0, 0, MISSING, 1);
         dueCommon("12", 0, 2, 0, 2, 2, 2, 1, 1);
+        dueCommon("0", 0, 1, 1, 1, 0, 0, MISSING, 0);
+        dueCommon("f", 0, 1, 1, 1, 0, 0, MISSING, 0);
         dueCommon("12", 0, 3, 0, 2, INVALID, INVALID, INVALID, INVALID);
         dueCommon("12", 0, 2, 0, 3, INVALID, INVALID, INVALID, INVALID);
         dueCommon("12", 1, 0, 0, 2, INVALID, INVALID, INVALID, INVALID);
