@@ -20,6 +20,7 @@ public final class BitLevels {
     private static final int SYMBOL_KINDS = 16;
     private static final int LAST_LEVEL = 4;
     private static final int BLOCK_SIZE = 8;
+    private static final long GREATEST_PRODUCT = 9223372036854775807L;
     /** What stands where nothing stands: no symbol, digit or character has this number. */
     private static final int NONE = -1;
 
@@ -28,8 +29,8 @@ public final class BitLevels {
     private final Levels levels;
     private final Tally tally;
     private final Tally otherTally;
-    private final Text text;
     private final Player player;
+    private final Text text;
 
     public BitLevels() {
         row = new Row();
@@ -37,8 +38,8 @@ public final class BitLevels {
         levels = new Levels();
         tally = new Tally();
         otherTally = new Tally();
-        text = new Text();
-        player = new Player(text);
+        player = new Player();
+        text = player.text();
     }
 
     // ---- edits
@@ -235,8 +236,8 @@ public final class BitLevels {
         long product = 1;
         for (int place = from; place < to; place++) {
             int factor = row.at(place) + 1;
-            // Dividing the greatest long tells whether the product would wrap around.
-            if (factor > 0 && product > Long.MAX_VALUE / factor) {
+            // Dividing the greatest product tells whether the product would wrap around.
+            if (factor > 0 && product > GREATEST_PRODUCT / factor) {
                 return LIMIT_REACHED;
             }
             product *= factor;
@@ -767,9 +768,13 @@ public final class BitLevels {
         private int reason;
         private int cause;
 
-        Player(Text text) {
-            this.text = text;
+        Player() {
+            text = new Text();
             outcome = new Row();
+        }
+
+        Text text() {
+            return text;
         }
 
         Row outcome() {
