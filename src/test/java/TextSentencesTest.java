@@ -367,12 +367,10 @@ public final class TextSentencesTest extends Sentences {
     }
 
     private static void noFault() {
+        says("NOT_FOUND if the text has no fault");
         for (int what = 0; what <= 2; what++) {
             int asked = what;
             String call = "fault(" + what + ")";
-            if (what == 0) {
-                says("NOT_FOUND if the text has no fault");
-            }
             dueError(call, MISSING, () -> withText("12", "+0,1;x0,2;"), x -> x.fault(asked));
             due(call + " of 60 characters", withText("12", "x0,1;".repeat(12)).fault(what), MISSING);
             due(call + " on 60", withText(FULL, "-0,1;+0,1;").fault(what), MISSING);
