@@ -186,7 +186,7 @@ public final class BitLevels {
             return INVALID_ARGUMENT;
         }
         tally.fill(row, from, to);
-        return foundOr(tally.symbolAtSorted(index));
+        return symbolOrNotFound(tally.symbolAtSorted(index));
     }
 
     public int below(int from, int to, int bound) {
@@ -202,7 +202,7 @@ public final class BitLevels {
             return INVALID_ARGUMENT;
         }
         tally.fill(row, from, to);
-        return foundOr(tally.leastFrom(bound));
+        return symbolOrNotFound(tally.leastFrom(bound));
     }
 
     public int spanOf(int from, int to, int what) {
@@ -258,7 +258,7 @@ public final class BitLevels {
         if (what == 0) {
             return tally.unlike();
         }
-        return what == 1 ? tally.timesBelow(SYMBOL_KINDS) : foundOr(tally.leastFrom(0));
+        return what == 1 ? tally.timesBelow(SYMBOL_KINDS) : symbolOrNotFound(tally.leastFrom(0));
     }
 
     public int heaviest(int many, int what) {
@@ -369,7 +369,7 @@ public final class BitLevels {
         return level >= 0 && level < LAST_LEVEL;
     }
 
-    private static int foundOr(int symbol) {
+    private static int symbolOrNotFound(int symbol) {
         return symbol == NONE ? NOT_FOUND : symbol;
     }
 

@@ -8,11 +8,14 @@ import java.nio.file.Path;
 import java.util.Arrays;
 import java.util.Set;
 import java.util.TreeSet;
+import java.util.regex.Matcher;
 import java.util.regex.Pattern;
 
 // The public face is that of the document, and the file keeps to the rules of LANGUAGE.md that can be read off it.
 public final class FaceTest {
     private static final Path PROGRAM = Path.of("src/main/java/BitLevels.java");
+    private static final Path DOCUMENT = Path.of("../shared/DOC.md");
+    private static final int LONGEST_METHOD = 60;
     private static final String[] FACE = {
         "int INVALID_ARGUMENT", "int NOT_POSSIBLE", "int LIMIT_REACHED", "int NOT_FOUND", "BitLevels()",
         "int put(int, int)", "int take(int)", "int change(int, int)", "int swap(int, int)", "int turn(int, int)",
@@ -76,6 +79,23 @@ public final class FaceTest {
         due(BitLevels.class.getPackageName().isEmpty(), "the class has a package");
     }
 
+    /** The face that this test knows is the one of the document; where that is not at hand, it stands without it. */
+    private static void faceOfDocument() throws Exception {
+        if (!Files.isReadable(DOCUMENT)) {
+            System.out.println("no document at hand: its face is not compared");
+            return;
+        }
+        Set<String> told = new TreeSet<>();
+        for (String line : Files.readAllLines(DOCUMENT)) {
+            if (line.startsWith("    public ")) {
+                String nameless = line.strip().replaceAll("int \\w+(?=[,)])", "int");
+                told.add(nameless.replaceAll("^public (static final )?| = .*|;", ""));
+            }
+        }
+        Set<String> known = new TreeSet<>(Arrays.asList(FACE));
+        due(told.equals(known), "the document's face is " + told + ", known is " + known);
+    }
+
     private static void classesInside() {
         Set<String> names = new TreeSet<>();
         for (Method method : BitLevels.class.getDeclaredMethods()) {
@@ -117,10 +137,31 @@ public final class FaceTest {
         }
     }
 
+    /** A method begins at a line with its brace, and ends at the brace that stands as far in. */
+    private static void lengths() throws Exception {
+        Pattern head = Pattern.compile("( +)[^ /*].*\\) \\{");
+        String[] lines = Files.readString(PROGRAM, StandardCharsets.ISO_8859_1).split("\\R");
+        int methods = 0;
+        for (int at = 0; at < lines.length; at++) {
+            Matcher method = head.matcher(lines[at]);
+            if (method.matches() && !lines[at].matches(" +(if|for|while|switch|\\}).*")) {
+                methods++;
+                int end = at;
+                while (end < lines.length && !lines[end].equals(method.group(1) + "}")) {
+                    end++;
+                }
+                due(end - at < LONGEST_METHOD, lines[at].strip() + " is too long");
+            }
+        }
+        due(methods > FACE.length - 4, "methods that were found: " + methods);
+    }
+
     public static void main(String[] args) throws Exception {
         face();
+        faceOfDocument();
         classesInside();
         words();
+        lengths();
         System.out.println(wrong == 0 ? "the face is as due" : wrong + " faults of the face");
         if (wrong != 0) {
             System.exit(1);
